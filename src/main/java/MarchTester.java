@@ -466,7 +466,7 @@ public final class MarchTester {
         return apart == 1 || apart == -1;
     }
 
-    /** 1 if a is caught at the lower address, and 2 if v is: ON TWO, and all there is to know of N CELLS. */
+    /** 1 if it is caught with a at the lower address, and 2 if with v there: ON TWO, and so of N CELLS, too. */
     private int bothOrders(int march, int kind) {
         Kind told = kindAt(kind);
         March walked = marchAt(march);
@@ -552,22 +552,23 @@ public final class MarchTester {
         if (suspects == null) {
             suspects = new Suspects();
         }
-        suspects.size = 0;
+        Suspects found = suspects;
+        found.size = 0;
         March walked = marchAt(live.runMarch);
         for (int k = 0; k < kindCount; k++) {
             Kind told = kindAt(k);
             if (told != null && walked != null) {
-                gatherOf(told, k, walked);
+                gatherOf(found, told, k, walked);
             }
         }
-        return suspects;
+        return found;
     }
 
-    private void gatherOf(Kind told, int k, March walked) {
+    private void gatherOf(Suspects found, Kind told, int k, March walked) {
         for (int p = 0; p < told.placements(live.size); p++) {
             aim(told, p);
             if (couldHaveLogged(told, walked)) {
-                suspects.add(k, p);
+                found.add(k, p);
             }
         }
     }
@@ -1167,10 +1168,12 @@ public final class MarchTester {
         }
 
         void keep(Memory memory) {
-            if (kept[next] == null) {
-                kept[next] = new Memory();
+            Memory slot = kept[next];
+            if (slot == null) {
+                slot = new Memory();
+                kept[next] = slot;
             }
-            kept[next].copyFrom(memory);
+            slot.copyFrom(memory);
             next = next + 1 < MOST_ACTS ? next + 1 : 0;
             size = Math.min(MOST_ACTS, size + 1);
         }

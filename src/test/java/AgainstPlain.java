@@ -135,7 +135,7 @@ public final class AgainstPlain {
     }
 
     private void tellMarch() {
-        String text = upTo(6) == 0 ? marchText(10, 7) : marchText(5, 4);
+        String text = upTo(6) == 0 ? marchText(10, 7) : upTo(3) == 0 ? marchText(8, 6) : marchText(5, 4);
         feedText(upTo(3) == 0 ? spoiled(text) : text);
         same("march()", subject.march(), plain.march());
         same("end(0)", subject.end(0), plain.end(0));
@@ -186,9 +186,24 @@ public final class AgainstPlain {
         if (Integer.bitCount(set) > 3 && upTo(4) > 0) {
             set &= random.nextInt();
         }
+        judgeSet(set);
+    }
+
+    private void judgeSet(int set) {
         same("least(" + set + ")", subject.least(set), plain.least(set));
         for (int k = -2; k < 11; k++) {
             same("walk(" + set + ", " + k + ")", subject.walk(set, k), plain.walk(set, k));
+        }
+    }
+
+    /** Sets with many STATES, with a LEAST of many OPS, with none, and UNKNOWN ones. */
+    private void judgeSets(String... texts) {
+        for (String text : texts) {
+            feedText(text);
+            same("kind()", subject.kind(), plain.kind());
+        }
+        for (int set = 1; set < 1 << texts.length; set = set + 1 + upTo(12)) {
+            judgeSet(set);
         }
     }
 
@@ -259,7 +274,7 @@ public final class AgainstPlain {
             same("kind()", subject.kind(), plain.kind());
         }
         for (int i = upTo(4); i > 0; i--) {
-            feedText(marchText(5, 4));
+            feedText(upTo(4) == 0 ? marchText(8, 6) : marchText(5, 4));
             same("march()", subject.march(), plain.march());
         }
         while (done.size() < 500) {
@@ -292,6 +307,10 @@ public final class AgainstPlain {
         int wrong = 0;
         for (long seed = first; seed < first + runs; seed++) {
             try {
+                if (seed == first) {
+                    new AgainstPlain(seed).judgeSets("a0w1:x", "a1w0:x", "a0w1:0", "a1w0:1", "v0r:1/0", "v1r:0/1", "a0r:x");
+                    new AgainstPlain(seed).judgeSets("m", "b:0", "s0:1", "v0w0:1,a0w0:x", "v1w1:0", "v0w1:1", "a1r:0,k:1");
+                }
                 new AgainstPlain(seed).go();
             } catch (RuntimeException e) {
                 wrong++;

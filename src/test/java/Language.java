@@ -133,9 +133,57 @@ public final class Language {
         }
     }
 
+    private static long made() {
+        com.sun.management.ThreadMXBean bean =
+            (com.sun.management.ThreadMXBean) java.lang.management.ManagementFactory.getThreadMXBean();
+        return bean.getThreadAllocatedBytes(Thread.currentThread().getId());
+    }
+
+    private static void tellRule(MarchTester x, int i) {
+        x.feed('v' << 24 | '0' + (i & 1) << 16 | 'w' << 8 | '0' + (i >> 1 & 1), ':' << 24 | '0' + (i >> 2 & 1) << 16, 0, 0, 0);
+        x.end(6);
+        x.kind();
+    }
+
+    /** A run's dearest calls, 512 of them, stay far below the room of 7.3 million elements. */
+    private static void room() {
+        MarchTester x = new MarchTester();
+        long before = made();
+        for (int i = 0; i < 512; i++) {
+            x = new MarchTester();
+        }
+        long objects = made() - before;
+        check(objects < 2_000_000, "512 objects take " + objects + " bytes");
+        before = made();
+        for (int i = 0; i < 512; i++) {
+            x.kind();
+            x.march();
+        }
+        long faults = made() - before;
+        check(faults < 1_000_000, "1,024 faulty texts take " + faults + " bytes");
+        for (int i = 0; i < 8; i++) {
+            tellRule(x, i);
+        }
+        x.feed('u' << 24 | 'p' << 16 | '(' << 8 | 'w', '0' << 24 | ',' << 16 | 'r' << 8 | '0', ')' << 24, 0, 0);
+        x.end(9);
+        check(x.march() == 0 && x.count(1) == 8, "the room's kinds and march");
+        x.run(0, 0);
+        before = made();
+        for (int i = 0; i < 512; i++) {
+            x.least(i & 255);
+            x.run(0, 0);
+            x.ask();
+            x.covers(0);
+            x.drawn(0, 50);
+        }
+        long calls = made() - before;
+        check(calls < 1_000_000, "2,560 dear calls take " + calls + " bytes");
+    }
+
     public static void main(String[] args) throws Exception {
         face();
         text();
+        room();
         System.out.println(wrong == 0 ? "Language: the class keeps to what can be checked" : "Language: " + wrong + " rules broken");
         if (wrong != 0) {
             System.exit(1);

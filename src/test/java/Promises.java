@@ -113,11 +113,11 @@ public final class Promises {
         String[] texts = {"", "v2w1:0", "v0w1:0,", "m,k:1", "k:1,m", "k:1,k:1,k:1,k:1,k:1", "s1:x",
             "k:1,k:1,k:1,k:1,n:0", "k:1,k:1,k:1,k:1,z", "k:1,k:1,k:1,k:1,", "k", "k:", "v0r:1/x", "v0w1:x", "a0r:1/1",
             "m m", "K:1", "b:1,b:1", "n:0,v0w1:0", "a0w1:x,n:0", "k:1;k:1", "x", "v0w", "v0q", "a1r:y", "b", "n:2",
-            "k:1\u00ff", "v 0 w 1 0"};
+            "k:1\u00ff", "v 0 w 1 0", "b:1,k:1", "n:1,s0:1", "m ,m", "  k:1, q"};
         int[] faults = {1, 9, 57, 19, 35, 130, 25,
             130, 129, 129, 9, 17, 49, 41, 41,
             17, 1, 35, 35, 59, 25, 1, 25, 17, 33, 9, 17,
-            25, 65};
+            25, 65, 35, 35, 27, 57};
         MarchTester x = new MarchTester();
         for (int i = 0; i < texts.length; i++) {
             due(4, "kind \"" + texts[i] + "\"", kind(x, texts[i]), -2 - faults[i]);
