@@ -196,12 +196,16 @@ public final class AgainstPlain {
         }
     }
 
-    /** Sets with many STATES, with a LEAST of many OPS, with none, and UNKNOWN ones. */
-    private void judgeSets(String... texts) {
+    private void tellKinds(String... texts) {
         for (String text : texts) {
             feedText(text);
             same("kind()", subject.kind(), plain.kind());
         }
+    }
+
+    /** Sets with many STATES, with a LEAST of many OPS, with none, and UNKNOWN ones. */
+    private void judgeSets(String... texts) {
+        tellKinds(texts);
         for (int set = 1; set < 1 << texts.length; set = set + 1 + upTo(12)) {
             judgeSet(set);
         }
@@ -309,6 +313,10 @@ public final class AgainstPlain {
             try {
                 if (seed == first) {
                     new AgainstPlain(seed).judgeSets("a0w1:x", "a1w0:x", "a0w1:0", "a1w0:1", "v0r:1/0", "v1r:0/1", "a0r:x");
+                    // STATES that differ in their first kind alone, and share a slot of the search's table
+                    AgainstPlain one = new AgainstPlain(seed);
+                    one.tellKinds("m", "v1r:0/1", "k:0", "n:1", "n:1", "v0w0:1", "s1:0", "a0w0:1");
+                    one.judgeSet(191);
                     new AgainstPlain(seed).judgeSets("m", "b:0", "s0:1", "v0w0:1,a0w0:x", "v1w1:0", "v0w1:1", "a1r:0,k:1");
                 }
                 new AgainstPlain(seed).go();
