@@ -211,6 +211,11 @@ public final class AgainstPlain {
         }
     }
 
+    private void judgeSets(int set, String... texts) {
+        tellKinds(texts);
+        judgeSet(set);
+    }
+
     private void live() {
         int n = plain.count(0);
         int one = about(0, n - 1);
@@ -317,6 +322,12 @@ public final class AgainstPlain {
                     AgainstPlain one = new AgainstPlain(seed);
                     one.tellKinds("m", "v1r:0/1", "k:0", "n:1", "n:1", "v0w0:1", "s1:0", "a0w0:1");
                     one.judgeSet(191);
+                    // LEAST is the 1,200th STATE, the 1,201st, and the 1,202nd; of 9 OPS; of 10
+                    new AgainstPlain(seed).judgeSets(7, "a1r:0", "a1w1:x", "s0:0");
+                    new AgainstPlain(seed).judgeSets(7, "a1r:x,a1w1:1", "a1w1:0", "a1w0:0");
+                    new AgainstPlain(seed).judgeSets(7, "a0w1:x", "s1:1", "a1w0:0");
+                    new AgainstPlain(seed).judgeSets(3, "a1w0:0", "a0w1:1");
+                    new AgainstPlain(seed).judgeSets(3, "a0w0:0", "a0r:0");
                     new AgainstPlain(seed).judgeSets("m", "b:0", "s0:1", "v0w0:1,a0w0:x", "v1w1:0", "v0w1:1", "a1r:0,k:1");
                 }
                 new AgainstPlain(seed).go();

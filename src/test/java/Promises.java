@@ -1,6 +1,6 @@
 /** Each promise of the document by itself, with answers that were worked out by hand. */
 public final class Promises {
-    private static final String MATS = "any(w0); up(r0,w1); down(r1,w0)";
+    private static final String MATS = Tell.MATS;
     private static final int NONE = MarchTester.NONE;
 
     private static int wrong = 0;
@@ -20,38 +20,16 @@ public final class Promises {
 
     // ---- helpers
 
-    private static void feedText(MarchTester x, String text) {
-        int before = x.count(10);
-        for (int from = 0; from < text.length(); from += 20) {
-            int[] w = new int[5];
-            for (int i = 0; i < 20; i++) {
-                int b = from + i < text.length() ? text.charAt(from + i) : 0;
-                w[i / 4] = w[i / 4] << 8 | b;
-            }
-            x.feed(w[0], w[1], w[2], w[3], w[4]);
-        }
-        x.end(before + text.length());
-    }
-
     private static int kind(MarchTester x, String text) {
-        feedText(x, text);
-        return x.kind();
+        return Tell.kind(x, text);
     }
 
     private static int march(MarchTester x, String text) {
-        feedText(x, text);
-        return x.march();
+        return Tell.march(x, text);
     }
 
     private static MarchTester with(String[] kinds, String... marches) {
-        MarchTester x = new MarchTester();
-        for (String k : kinds) {
-            kind(x, k);
-        }
-        for (String m : marches) {
-            march(x, m);
-        }
-        return x;
+        return Tell.with(kinds, marches);
     }
 
     private static String[] kinds(String... texts) {
