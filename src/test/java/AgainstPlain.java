@@ -8,6 +8,12 @@ public final class AgainstPlain {
         "v1r : 0 / 1", "a0w1:x", "a1w0:x", "a0w1:0", "a1w0:1", "a0w0:1", "a1w1:0", "a0r:1", "a1r:x", "a0r:0",
         "s0:0", "s0:1", "s1:0", "s1:1", "k:0", "k:1", "v1w1:1", "v0r:0/0"};
     private static final String[] LONERS = {"n:0", "n:1", "m", "b:0", "b:1"};
+    /** Sets whose LEAST is the 1,200th STATE, the 1,201st or 1,202nd, of 9 OPS or 10, or hangs on one step or contents. */
+    private static final String[] EDGES = {"a1r:0 a1w1:x s0:0", "a1r:x,a1w1:1 a1w1:0 a1w0:0", "a0w1:x s1:1 a1w0:0",
+        "a1w0:0 a0w1:1", "a0w0:0 a0r:0", "a0r:0 a1r:0", "a0r:0,v1w0:1", "a1w1:0 a0w0:0 a1w1:1", "a0w0:0 a1w1:x a1w1:1",
+        "a1w1:0 v1w0:1,a0w1:x s0:0,a0w1:0,v1w1:0,a0w0:0", "a0w0:x v1w1:0,a1r:0,a1w1:0 a1r:x,a1w0:1,s0:0",
+        "m s0:0,v1w0:1,v0w1:0", "a0r:x,s0:1,v0w1:0 v1w1:0 a0w1:0", "a1w0:0,s1:1,v1w0:1", "a1w1:0,s0:0,v0w1:0",
+        "a1w0:1 a1w1:0 b:1 s1:0"};
     private static final String SIGNS = "vasknmb01wrx:,/; ()updowany\u00ffA";
 
     private final Random random;
@@ -211,11 +217,6 @@ public final class AgainstPlain {
         }
     }
 
-    private void judgeSets(int set, String... texts) {
-        tellKinds(texts);
-        judgeSet(set);
-    }
-
     private void live() {
         int n = plain.count(0);
         int one = about(0, n - 1);
@@ -322,12 +323,12 @@ public final class AgainstPlain {
                     AgainstPlain one = new AgainstPlain(seed);
                     one.tellKinds("m", "v1r:0/1", "k:0", "n:1", "n:1", "v0w0:1", "s1:0", "a0w0:1");
                     one.judgeSet(191);
-                    // LEAST is the 1,200th STATE, the 1,201st, and the 1,202nd; of 9 OPS; of 10
-                    new AgainstPlain(seed).judgeSets(7, "a1r:0", "a1w1:x", "s0:0");
-                    new AgainstPlain(seed).judgeSets(7, "a1r:x,a1w1:1", "a1w1:0", "a1w0:0");
-                    new AgainstPlain(seed).judgeSets(7, "a0w1:x", "s1:1", "a1w0:0");
-                    new AgainstPlain(seed).judgeSets(3, "a1w0:0", "a0w1:1");
-                    new AgainstPlain(seed).judgeSets(3, "a0w0:0", "a0r:0");
+                    for (String set : EDGES) {
+                        AgainstPlain edge = new AgainstPlain(seed);
+                        String[] kinds = set.split(" ");
+                        edge.tellKinds(kinds);
+                        edge.judgeSet((1 << kinds.length) - 1);
+                    }
                     new AgainstPlain(seed).judgeSets("m", "b:0", "s0:1", "v0w0:1,a0w0:x", "v1w1:0", "v0w1:1", "a1r:0,k:1");
                 }
                 new AgainstPlain(seed).go();

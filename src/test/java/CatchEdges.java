@@ -21,6 +21,7 @@ final class CatchEdges {
         onTwoCells();
         coverings();
         leastSets();
+        leastOfEachSet();
         leastLimits();
         leastOrder();
         leastStates();
@@ -68,6 +69,9 @@ final class CatchEdges {
         s.due("either way fails", Tell.with(Tell.kinds("k:1"), "any(w0);any(w0);any(r0)").caught(0, 0, false), 4);
         s.due("any that does not matter", Tell.with(Tell.kinds(RISE), "any(w0);up(r0,w1)").caught(0, 0, false), 6);
         s.due("no READ", Tell.with(Tell.kinds("k:1"), "any(w0)").caught(0, 0, false), 0);
+        for (int contents = 0; contents < 4; contents++) {
+            s.due("all but contents " + contents + " fail", Tell.oneWayOut(contents).caught(0, 0, false), 0);
+        }
     }
 
     private void caughtCounts() {
@@ -107,6 +111,9 @@ final class CatchEdges {
         escape(Tell.with(Tell.kinds(RISE), "any(w0);any(w0);any(r0,w1)"), 0, false, 1, 0, 0, 4);
         // by contents 0 each CHOICE fails; with v 1 the first one that does not is 0
         escape(Tell.with(Tell.kinds("v0w0:1"), "any(w0);any(r0)"), 0, false, 0, NONE, 1, 0);
+        for (int contents = 0; contents < 4; contents++) {
+            escape(Tell.oneWayOut(contents), 0, false, 1, 0, contents, 0);
+        }
         MarchTester x = Tell.with(Tell.kinds("a0w0:1"), "down(w0);down(r0)");
         x.layout(0, 3);
         // cell 0 is at the last address: v 1 is written behind a 0
@@ -224,6 +231,25 @@ final class CatchEdges {
         s.due("least(257)", eight.least(257), NONE);
     }
 
+    private void leastOfEachSet() {
+        s.says(13, "LEAST of KINDS, as bits;");
+        String[] kinds = {"a1w0:0", "a0w1:1", "m", "k:0", "a1r:x"};
+        MarchTester up = Tell.with(kinds);
+        MarchTester down = Tell.with(kinds);
+        for (int bits = 1; bits < 32; bits++) {
+            up.least(bits);
+            down.least(32 - bits);
+        }
+        for (int bits = 1; bits < 32; bits++) {
+            int alone = Tell.with(kinds).least(bits);
+            s.due("least(" + bits + ") behind others", up.least(bits), alone);
+            s.due("least(" + bits + ") ahead of others", down.least(bits), alone);
+        }
+        s.due("least(3)", up.least(3), 9);
+        s.due("least(4)", up.least(4), 3);
+        s.due("least(8)", up.least(8), 2);
+    }
+
     private void leastLimits() {
         s.says(13, "LEAST of a set of KINDS: the fewest OPS of a MARCH of up and down, of ELEMENTS of at most 3 OPS, that catches these ON TWO in both PLACEMENTS.");
         // with 2 OPS at most it would be 8, with 4 it would be 6
@@ -285,6 +311,10 @@ final class CatchEdges {
         walk(new int[] {2, 100, 203, 301}, "k:0", "k:1");
         walk(new int[] {2, 100}, "n:1");
         walk(new int[] {3, 101}, "n:0");
+        // one step more or less, or one that goes the other way, and the 1,201st STATE does not come ahead of the end
+        least(-3, "a0w0:0", "a1w1:x", "a1w1:1");
+        least(-3, "a1w1:0", "v1w0:1,a0w1:x", "s0:0,a0w1:0,v1w1:0,a0w0:0");
+        least(-3, "a0w0:x", "v1w1:0,a1r:0,a1w1:0", "a1r:x,a1w0:1,s0:0");
         s.says(14, "The first STATE is that with no OP.");
         s.due("a march of one OP has no READ", Tell.with(Tell.kinds("k:1")).least(1), 2);
         s.says(14, "For C from 1 to 9: for l from 1 to 3: for STATES that came first with C - l OPS, in the order in which they came, for STEPS of l OPS in their order: the STATE behind it comes, if it has not; are all FAILED in it: C is LEAST.");
@@ -302,6 +332,12 @@ final class CatchEdges {
         least(6, "a1r:0", "a1w1:x", "s0:0");
         least(7, "a1r:x", "a0w0:1", "s1:1");
         least(7, "m", "a0w1:0", "a1w1:x", "n:1");
+        // contents ahead of which each matters, of either placement
+        walk(new int[] {2, 100, 103, 201}, "m", "s0:0,v1w0:1,v0w1:0");
+        walk(new int[] {2, 3, 3, 101, 212, 213, 301}, "a0r:x,s0:1,v0w1:0", "v1w1:0", "a0w1:0");
+        walk(new int[] {3, 2, 0}, "a1w0:0,s1:1,v1w0:1");
+        // with a 0 ahead v is 0 at once, so it can't rise
+        walk(new int[] {3, 101}, "a1w1:0,s0:0,v0w1:0");
         s.says(13, "It is UNKNOWN, if the 1,201st STATE would come ahead of it.");
         // here it is the 1,201st itself
         least(7, "a1r:x,a1w1:1", "a1w1:0", "a1w0:0");

@@ -76,6 +76,12 @@ final class GuessEdges {
         ofA.put(0, 3, 1);
         ofA.run(0, 0);
         fitsAre(ofA, "a 2 or 3, if it was 1 ahead", 2, 0, 2, 1);
+        for (int way = 0; way < 4; way++) {
+            MarchTester out = Tell.oneWayOut(way);
+            out.memory(2);
+            out.run(0, 0);
+            fitsAre(out, "with contents " + way + " alone", 2, 0, 0, 1);
+        }
         // v 0 fails twice, or once if the first READ mends it
         MarchTester many = Tell.with(Tell.kinds("k:1", "v0w0:1,v1r:0/1"), "up(w0);up(r0);up(r0)");
         many.put(1, NONE, 2);
@@ -105,6 +111,21 @@ final class GuessEdges {
         x.tell(5);
         x.put(0, 1, 0);
         fitsAre(x, "other acts change nothing", 6, 0, 0, 1);
+        MarchTester ways = Tell.with(Tell.kinds("k:1"), "up(w0);down(r0)", "any(w0);any(r0);any(r0)");
+        ways.put(0, NONE, 1);
+        ways.run(0, 0);
+        fitsAre(ways, "READ 2 of those that go down", 1, 0, NONE, 1);
+        ways.run(1, 2);
+        fitsAre(ways, "READS 2 and 5", 1, 0, NONE, 1);
+        ways.run(1, 4);
+        fitsAre(ways, "READS 1 and 6", 1, 0, NONE, 1);
+        MarchTester twice = Tell.with(Tell.kinds("k:1", "v0r:1/0"), "up(w0);up(r0,r0)");
+        twice.put(1, NONE, 1);
+        twice.run(0, 0);
+        fitsAre(twice, "the second READ at its address", 1, 1, NONE, 1);
+        twice.put(0, NONE, 1);
+        twice.run(0, 0);
+        fitsAre(twice, "both READS at its address", 1, 0, NONE, 1);
         Tell.kind(x, "v0w0:0");
         s.due("a kind that came behind the run fits, too", x.fits(0), 10);
     }
@@ -152,11 +173,14 @@ final class GuessEdges {
         MarchTester many = Tell.with(Tell.kinds("k:1", "v0w0:1,v1r:0/1"), "up(w0)", "up(w0);up(r0);up(r0)");
         many.run(0, 0);
         s.due("by how many failed, too", many.parts(1), 1);
-        MarchTester choice = Tell.with(Tell.kinds(RISE), UPWARD, "any(w0);any(r0,w1)", "up(w0);down(r0,w1)");
+        MarchTester choice = Tell.with(Tell.kinds(RISE), UPWARD, "any(w0);any(r0,w1)", "up(w0);down(r0,w1)",
+            "up(w0);any(r0,w1)", "any(w0);any(w0);any(r0,w1)");
         choice.run(0, 7);
         // the fits have v below a: going down v 0 fails for three a, v 1 for two, v 2 for one
         s.due("CHOICE 0, not that of the run", choice.parts(1), 6);
         s.due("down", choice.parts(2), 3);
+        s.due("the first any goes up, too", choice.parts(3), 6);
+        s.due("the third any goes up, too", choice.parts(4), 6);
         MarchTester layout = Tell.with(Tell.kinds("k:1", RISE), "up(w0)", UPWARD);
         layout.memory(3);
         layout.run(0, 0);
@@ -166,6 +190,12 @@ final class GuessEdges {
         layout.run(0, 0);
         s.due("two cells: k:1 and RISE at v 1", layout.parts(1), 2);
         s.due("240 alike", allFit().parts(0), 240);
+        // READS 246 to 275 are the only ones that fail, five of each cell
+        MarchTester late = Tell.with(Tell.kinds("k:1"), "up(w0)",
+            "up(w1,r1,r1,r1,r1,r1)" + ";up(r1,r1,r1,r1,r1,r1)".repeat(6) + ";up(w0,r0,r0,r0,r0,r0)");
+        late.memory(6);
+        late.run(0, 0);
+        s.due("each by its late READS", late.parts(1), 1);
         MarchTester none = Tell.with(Tell.kinds("k:1"), ZEROS);
         none.run(0, 0);
         s.due("without fits", none.parts(0), 0);
@@ -195,6 +225,9 @@ final class GuessEdges {
             "up(w1);up(r1);up(w0);up(r0)", ZEROS);
         x.run(0, 0);
         s.due("the first of two that part best", x.ask(), 2);
+        MarchTester second = Tell.with(Tell.kinds("k:1", "k:0"), "up(w0)", ZEROS, "up(w0)");
+        second.run(0, 0);
+        s.due("the second of three", second.ask(), 1);
         MarchTester best = Tell.with(Tell.kinds("k:1"), ZEROS, "up(w0)", ZEROS);
         best.run(1, 0);
         s.due("the first of all", best.ask(), 0);

@@ -60,6 +60,13 @@ final class Tell {
         return x;
     }
 
+    /** By march 0 kind 0, its a in cell 0 and its v in cell 1, fails unless the cells are these ahead. */
+    static MarchTester oneWayOut(int contents) {
+        // w 0 makes or leaves v a 1 where v, or a, is not as in the contents; a that comes behind v is not mended
+        String kind = "v" + (1 - (contents >> 1)) + "w0:1,a" + (1 - (contents & 1)) + "w0:1";
+        return with(kinds(kind), "down(w0);down(r0)");
+    }
+
     /** All that can be seen of an object, its acts undone and its tape read at the end; some 250 calls. */
     static List<Integer> all(MarchTester x) {
         List<Integer> seen = new ArrayList<>();
