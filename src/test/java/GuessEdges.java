@@ -196,6 +196,11 @@ final class GuessEdges {
         late.memory(6);
         late.run(0, 0);
         s.due("each by its late READS", late.parts(1), 1);
+        // from cells 0 the first kind fails at its first READ alone, the other one at its last, 64 READS later
+        MarchTester apart = Tell.with(Tell.kinds("v0w0:1,v1r:0/1", "v0w1:0"), "up(w0)",
+            "up(w0);up(r0);up(r0,r0,r0,r0,r0,r0);up(r0,r0,r0,r0,r0,r0);up(r0,r0,r0);up(w1,r1)");
+        apart.run(0, 0);
+        s.due("READS that are 64 apart", apart.parts(1), 1);
         MarchTester none = Tell.with(Tell.kinds("k:1"), ZEROS);
         none.run(0, 0);
         s.due("without fits", none.parts(0), 0);

@@ -66,10 +66,10 @@ public final class Language {
         for (Field f : c.getDeclaredFields()) {
             check(Modifier.isPrivate(f.getModifiers()) || f.getName().equals("NONE"), "a field is seen: " + f.getName());
         }
-        nested(c);
+        nested(c, names);
     }
 
-    private static void nested(Class<?> c) {
+    private static void nested(Class<?> c, Set<String> names) {
         check(c.getDeclaredClasses().length < 12, "at most some twelve classes");
         fields(c);
         for (Class<?> inside : c.getDeclaredClasses()) {
@@ -79,6 +79,7 @@ public final class Language {
             fields(inside);
             for (Method m : inside.getDeclaredMethods()) {
                 check(m.getParameterCount() <= 7, "at most seven parameters: " + m.getName());
+                check(!names.contains(m.getName()), "a method inside bears a public one's name: " + m.getName());
             }
         }
     }
