@@ -297,6 +297,7 @@ final class TextEdges {
             kindFault(text + ", ", text.length() + 2, 1);
         }
         kindFault("   ", 3, 1);
+        strangeBytesInKinds();
         s.says(4, "2 a RULE (where it begins) that would be the fifth;");
         kindFault("k:1,k:1,k:1,k:1,v0w1:0", 16, 2);
         kindFault("k:1,k:1,k:1,k:1,  a0w1:0", 18, 2);
@@ -312,6 +313,23 @@ final class TextEdges {
                 kindFault(alone + " , " + other, alone.length() + 3, 3);
             }
         }
+    }
+
+    /** A byte that is no sign of any text, 128 above one that is among them, in place of each byte. */
+    private void strangeBytesInKinds() {
+        for (String text : new String[] {"v1r:0/1,a0w1:x,s0:1", "k:1,a0r:1", "n:1", "b:1", "m"}) {
+            for (int n = 0; n < text.length(); n++) {
+                for (char strange = 0; strange < 256; strange++) {
+                    if (isStrange(strange)) {
+                        kindFault(text.substring(0, n) + strange + text.substring(n + 1), n, 1);
+                    }
+                }
+            }
+        }
+    }
+
+    private static boolean isStrange(char sign) {
+        return " vasknmb01wrx:,/;()updowny".indexOf(sign) < 0 && (sign < 'a' || sign > 'z');
     }
 
     private void kindFaultsOfOnePlace() {
@@ -429,6 +447,15 @@ final class TextEdges {
         marchFault(text + "\u00ff", 17, 1);
         marchFault(text + " ; ", 20, 1);
         marchFault("  ", 2, 1);
+        // in place of a letter of a WAY it ends what goes on there, so that the WAY is broken where it begins
+        int[] broken = {0, 0, 2, 3, 4, 5, 6, 7, 8, 9, 10, 10, 10, 13, 14, 15, 16};
+        for (int n = 0; n < text.length(); n++) {
+            for (char strange = 0; strange < 256; strange++) {
+                if (isStrange(strange)) {
+                    marchFault(text.substring(0, n) + strange + text.substring(n + 1), broken[n], 1);
+                }
+            }
+        }
         s.says(5, "2 an ELEMENT (where it begins) that would be the ninth, or an any that would be the fourth;");
         marchFault("up(w0);".repeat(8) + "  down(w0)", 58, 2);
         marchFault("up(w0);".repeat(8) + "up", 56, 2);
