@@ -315,6 +315,14 @@ final class CatchEdges {
         least(-3, "a0w0:0", "a1w1:x", "a1w1:1");
         least(-3, "a1w1:0", "v1w0:1,a0w1:x", "s0:0,a0w1:0,v1w1:0,a0w0:0");
         least(-3, "a0w0:x", "v1w1:0,a1r:0,a1w1:0", "a1r:x,a1w0:1,s0:0");
+        for (String[] row : WalkRows.ROWS) {
+            String[] kinds = row[0].split(" ");
+            if (row[1].startsWith("-")) {
+                least(Integer.parseInt(row[1]), kinds);
+            } else {
+                walk(WalkRows.told(row[1]), kinds);
+            }
+        }
         s.says(14, "The first STATE is that with no OP.");
         s.due("a march of one OP has no READ", Tell.with(Tell.kinds("k:1")).least(1), 2);
         s.says(14, "For C from 1 to 9: for l from 1 to 3: for STATES that came first with C - l OPS, in the order in which they came, for STEPS of l OPS in their order: the STATE behind it comes, if it has not; are all FAILED in it: C is LEAST.");

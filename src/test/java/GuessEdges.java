@@ -328,6 +328,34 @@ final class GuessEdges {
         s.due("the second kind, from the most", drawnFrom(eight, Integer.MAX_VALUE), 0);
         // 5 * 1103515245 + 12345 less 2 * 2147483648 is 1222621274, 18655 times 65536 and some: 8 * 2331 and 7
         s.due("the eighth kind, from 5", drawnFrom(eight, 5), 1);
+        MarchTester held = Tell.with(Tell.kinds("v0w1:0", "a1w1:0"), "up(w1);any(r1)");
+        for (int n = 2; n <= 6; n++) {
+            held.memory(n);
+            for (int m : new int[] {1, 2, 3, 20, 49, 50}) {
+                held.draws(1000 * n + m);
+                s.due("contents of " + n + " cells, drawn " + m + " times", held.drawn(0, m), heldFailures(1000 * n + m, n, m));
+            }
+        }
+    }
+
+    /** The first kind fails if v is 0 ahead, the second one if a is 1 ahead and written behind v. */
+    private static int heldFailures(long start, int n, int m) {
+        long x = start;
+        int failures = 0;
+        for (int i = 0; i < m; i++) {
+            int[] drawn = new int[4];
+            int[] of = {2, n, 1 << n, 8};
+            for (int j = 0; j < 4; j++) {
+                x = (x * 1103515245L + 12345L) % 2147483648L;
+                of[1] = drawn[0] == 0 ? n : n * (n - 1);
+                drawn[j] = (int) (x / 65536 % of[j]);
+            }
+            int a = drawn[1] / (n - 1);
+            boolean behind = drawn[1] % (n - 1) < a;
+            boolean fails = drawn[0] == 0 ? (drawn[2] >> drawn[1] & 1) == 0 : behind && (drawn[2] >> a & 1) == 1;
+            failures += fails ? 1 : 0;
+        }
+        return failures;
     }
 
     private static int drawnFrom(MarchTester x, int start) {

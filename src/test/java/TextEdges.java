@@ -315,7 +315,7 @@ final class TextEdges {
         }
     }
 
-    /** A byte that is no sign of any text, 128 above one that is among them, in place of each byte. */
+    /** In place of each byte every one that is no sign of a text, those that are 128 above a sign among them. */
     private void strangeBytesInKinds() {
         for (String text : new String[] {"v1r:0/1,a0w1:x,s0:1", "k:1,a0r:1", "n:1", "b:1", "m"}) {
             for (int n = 0; n < text.length(); n++) {
@@ -329,7 +329,7 @@ final class TextEdges {
     }
 
     private static boolean isStrange(char sign) {
-        return " vasknmb01wrx:,/;()updowny".indexOf(sign) < 0 && (sign < 'a' || sign > 'z');
+        return " 01:,/;()".indexOf(sign) < 0 && (sign < 'a' || sign > 'z');
     }
 
     private void kindFaultsOfOnePlace() {
